@@ -144,7 +144,7 @@ public final class Beadslant {
             throws IndexOutOfBoundsException, IllegalArgumentException, UnsupportedOperationException {
         Cloth found = clothOf(cloth);
         requireFillable(found, kinds);
-        return filler.countAll(found, kinds);
+        return filler.tryWays(found, kinds, false);
     }
 
     public int fill(int cloth, int kinds) throws IndexOutOfBoundsException, IllegalArgumentException,
@@ -152,7 +152,7 @@ public final class Beadslant {
         Cloth found = clothOf(cloth);
         requireFillable(found, kinds);
         int empty = found.countOf(NONE);
-        if (!filler.takeFirst(found, kinds)) {
+        if (filler.tryWays(found, kinds, true) < 1) {
             throw new NoSuchElementException("there is no way");
         }
         return empty;
@@ -677,7 +677,7 @@ public final class Beadslant {
         }
     }
 
-    /** What a stitch makes of two cells that touch; down and right are -1, 0 or 1. */
+    /** What a stitch makes of two cells that touch. */
     private static final class Weave {
         private static final char LOOM = 'l';
         private static final char PEYOTE = 'p';
@@ -687,6 +687,7 @@ public final class Beadslant {
             return stitch == LOOM || stitch == PEYOTE || stitch == BRICK;
         }
 
+        /** Down and right are -1, 0 or 1 and lead from the cell to the other one. */
         static boolean areNeighbours(Cloth cloth, int row, int column, int down, int right) {
             if (down == 0 || right == 0) {
                 return down != right;
@@ -700,12 +701,13 @@ public final class Beadslant {
             return false;
         }
 
-        static boolean isSlant(Cloth cloth, int row, int column, int down, int right) {
+        /** Of two cells that are neighbours or not: whether they are a slant. */
+        static boolean isSlant(Cloth cloth, boolean areNeighbours, int down, int right) {
             if (cloth.stitch == PEYOTE) {
-                return right != 0 && areNeighbours(cloth, row, column, down, right);
+                return areNeighbours && right != 0;
             }
             if (cloth.stitch == BRICK) {
-                return down != 0 && areNeighbours(cloth, row, column, down, right);
+                return areNeighbours && down != 0;
             }
             return down != 0 && right != 0;
         }
@@ -808,6 +810,7 @@ public final class Beadslant {
         private final int rows;
         private final Path path;
         private final int[] cellKinds;
+        private final int[] cellColours;
         private final int[] gapKinds;
         private final int[] passCounts;
         private char state = DRAWN;
@@ -821,10 +824,12 @@ public final class Beadslant {
             path = new Path(stitch, columns, rows);
             int size = columns * rows > 0 ? columns * rows : 0;
             cellKinds = new int[size];
+            cellColours = new int[size];
             gapKinds = new int[size];
             passCounts = new int[size];
             for (int cell = 0; cell < size; cell++) {
                 cellKinds[cell] = NONE;
+                cellColours[cell] = NONE;
                 gapKinds[cell] = NONE;
             }
             for (int place = 0; place < path.length(); place++) {
@@ -849,47 +854,46 @@ public final class Beadslant {
             return row * columns + column;
         }
 
-        private boolean hasCell(int cell) {
-            return cell >= 0 && cell < cellKinds.length && cell < gapKinds.length && cell < passCounts.length;
+        int kindIn(int cell) {
+            return cell >= 0 && cell < cellKinds.length ? cellKinds[cell] : NONE;
         }
 
-        int kindIn(int cell) {
-            return hasCell(cell) ? cellKinds[cell] : NONE;
+        int colourIn(int cell) {
+            return cell >= 0 && cell < cellColours.length ? cellColours[cell] : NONE;
         }
 
         private int gapKindIn(int cell) {
-            return hasCell(cell) ? gapKinds[cell] : NONE;
+            return cell >= 0 && cell < gapKinds.length ? gapKinds[cell] : NONE;
         }
 
         int passesOf(int cell) {
-            return hasCell(cell) ? passCounts[cell] : 0;
+            return cell >= 0 && cell < passCounts.length ? passCounts[cell] : 0;
+        }
+
+        /** NONE also outside of the cloth, so that callers may look beyond its edges. */
+        int colourAt(int row, int column) {
+            int cell = row * columns + column;
+            boolean isInside = row >= 0 && row < rows && column >= 0 && column < columns;
+            return isInside && cell >= 0 && cell < cellColours.length ? cellColours[cell] : NONE;
         }
 
         void put(int cell, int kind) {
-            if (hasCell(cell)) {
+            if (cell >= 0 && cell < cellKinds.length && cell < cellColours.length) {
                 cellKinds[cell] = kind;
+                cellColours[cell] = kinds.colourOf(kind);
             }
         }
 
         private void setPasses(int cell, int passes) {
-            if (hasCell(cell)) {
+            if (cell >= 0 && cell < passCounts.length) {
                 passCounts[cell] = passes;
             }
         }
 
         private void setGap(int cell, int kind) {
-            if (hasCell(cell)) {
+            if (cell >= 0 && cell < gapKinds.length) {
                 gapKinds[cell] = kind;
             }
-        }
-
-        int colourIn(int cell) {
-            return kinds.colourOf(kindIn(cell));
-        }
-
-        /** NONE also outside of the cloth, so that callers may look beyond its edges. */
-        int colourAt(int row, int column) {
-            return hasPlace(row, column) ? colourIn(cellOf(row, column)) : NONE;
         }
 
         int countOf(int kind) {
@@ -1110,12 +1114,17 @@ public final class Beadslant {
             int breaches = 0;
             for (int row = 0; row < cloth.rows; row++) {
                 for (int column = 0; column < cloth.columns; column++) {
-                    if (cloth.colourAt(row, column) != NONE) {
-                        breaches += countBreachesFrom(cloth, rule, row, column);
+                    if (rule == THREES) {
+                        breaches += isThree(cloth, row, column) ? 1 : 0;
+                    } else if (rule == FRAME) {
+                        breaches += leavesFrame(cloth, row, column) ? 1 : 0;
+                    } else {
+                        breaches += countTwos(cloth, rule, row, column);
                     }
                 }
             }
-            return breaches;
+            // Each two was counted at both of its cells.
+            return rule == NEIGHBOURS || rule == SLANTS ? breaches / 2 : breaches;
         }
 
         static int countOwnBreaches(Cloth cloth) {
@@ -1128,29 +1137,23 @@ public final class Beadslant {
             return breaches;
         }
 
-        /** Counts each two or three at the cell of it that comes first, row by row. */
-        private static int countBreachesFrom(Cloth cloth, int rule, int row, int column) {
-            if (rule == THREES) {
-                return isThree(cloth, row, column) ? 1 : 0;
-            }
-            if (rule == FRAME) {
-                return leavesFrame(cloth, row, column) ? 1 : 0;
-            }
-            return countTwo(cloth, rule, row, column, 0, 1) + countTwo(cloth, rule, row, column, 1, -1)
-                    + countTwo(cloth, rule, row, column, 1, 0) + countTwo(cloth, rule, row, column, 1, 1);
-        }
-
-        private static int countTwo(Cloth cloth, int rule, int row, int column, int down, int right) {
-            return isTwo(cloth, rule, row, column, down, right) ? 1 : 0;
-        }
-
-        private static boolean isTwo(Cloth cloth, int rules, int row, int column, int down, int right) {
+        /** Counts the twos of a cell that break any of the rules. */
+        private static int countTwos(Cloth cloth, int rules, int row, int column) {
             int colour = cloth.colourAt(row, column);
-            if (colour == NONE || colour != cloth.colourAt(row + down, column + right)) {
-                return false;
+            int twos = 0;
+            for (int down = -1; down <= 1; down++) {
+                for (int right = -1; right <= 1; right++) {
+                    if (colour == NONE || colour != cloth.colourAt(row + down, column + right)) {
+                        continue;
+                    }
+                    boolean areNeighbours = Weave.areNeighbours(cloth, row, column, down, right);
+                    if ((rules & NEIGHBOURS) != 0 && areNeighbours
+                            || (rules & SLANTS) != 0 && Weave.isSlant(cloth, areNeighbours, down, right)) {
+                        twos++;
+                    }
+                }
             }
-            return (rules & NEIGHBOURS) != 0 && Weave.areNeighbours(cloth, row, column, down, right)
-                    || (rules & SLANTS) != 0 && Weave.isSlant(cloth, row, column, down, right);
+            return twos;
         }
 
         private static boolean isThree(Cloth cloth, int row, int column) {
@@ -1171,7 +1174,7 @@ public final class Beadslant {
         /** Whether the bead of a cell breaks a rule of its cloth, together with any other one. */
         static boolean isBrokenAt(Cloth cloth, int row, int column) {
             int rules = cloth.rules;
-            if ((rules & (NEIGHBOURS | SLANTS)) != 0 && isInTwo(cloth, row, column)) {
+            if ((rules & (NEIGHBOURS | SLANTS)) != 0 && countTwos(cloth, rules, row, column) > 0) {
                 return true;
             }
             if ((rules & THREES) != 0 && (isThree(cloth, row, column - 2) || isThree(cloth, row, column - 1)
@@ -1182,17 +1185,6 @@ public final class Beadslant {
                 return false;
             }
             return row == 0 && column == 0 ? countBreaches(cloth, FRAME) > 0 : leavesFrame(cloth, row, column);
-        }
-
-        private static boolean isInTwo(Cloth cloth, int row, int column) {
-            for (int down = -1; down <= 1; down++) {
-                for (int right = -1; right <= 1; right++) {
-                    if (isTwo(cloth, cloth.rules, row, column, down, right)) {
-                        return true;
-                    }
-                }
-            }
-            return false;
         }
     }
 
@@ -1205,15 +1197,6 @@ public final class Beadslant {
         private final int[] empties = new int[MOST];
         private int count;
 
-        int countAll(Cloth cloth, int choice) {
-            return tryWays(cloth, choice, false);
-        }
-
-        /** Leaves the first way in the cloth, or the cloth as it was if there is none. */
-        boolean takeFirst(Cloth cloth, int choice) {
-            return tryWays(cloth, choice, true) > 0;
-        }
-
         private void findEmpties(Cloth cloth) {
             count = 0;
             for (int cell = 0; cell < cloth.size(); cell++) {
@@ -1224,8 +1207,11 @@ public final class Beadslant {
             }
         }
 
-        /** What is drawn already has to keep the rules too; then only the new beads can break them. */
-        private int tryWays(Cloth cloth, int choice, boolean isFirstEnough) {
+        /**
+         * Counts the ways; or leaves the first one in the cloth and returns 1, or 0 if there is none.
+         * What is drawn already has to keep the rules too; then only the new beads can break them.
+         */
+        int tryWays(Cloth cloth, int choice, boolean isFirstEnough) {
             if (Rules.countOwnBreaches(cloth) > 0) {
                 return 0;
             }
@@ -1457,16 +1443,16 @@ public final class Beadslant {
             count--;
         }
 
-        /** Returns the first cell at which the string is wrong, NONE if it is not. */
+        /** Returns where the string is wrong, NONE if it is not; beyond either end there is no colour. */
         int firstWrong(Cloth cloth) {
-            int compared = Math.min(count, cloth.size());
-            for (int cell = 0; cell < compared; cell++) {
+            int most = Math.max(count, cloth.size());
+            for (int cell = 0; cell < most; cell++) {
                 int colour = cloth.colourIn(cell);
                 if (colour == NONE || colour != cloth.kinds.colourOf(kindFromEnd(cell))) {
                     return cell;
                 }
             }
-            return count == cloth.size() ? NONE : compared;
+            return NONE;
         }
 
         void moveInto(Cloth cloth) {

@@ -147,6 +147,12 @@ public final class ClothsTest {
         Due.fails(x, "motif with an empty cell in its block", UnsupportedOperationException.class,
                 () -> x.motif(0, 2, 2, 0));
         Due.is("motif with an empty cell behind its block", x.motif(0, 1, 2, 0), 1);
+        x.draw(0, 0, 3, -1);
+        Due.fails(x, "motif with an empty cell in its row", UnsupportedOperationException.class,
+                () -> x.motif(0, 4, 1, 0));
+        x.draw(0, 3, 0, -1);
+        Due.fails(x, "motif with an empty cell in its column", UnsupportedOperationException.class,
+                () -> x.motif(0, 1, 4, 0));
     }
 
     private static void motifLeans() {
@@ -342,6 +348,31 @@ public final class ClothsTest {
         Due.is("ways of rule 8 of an empty cloth", x.ways(0, 3), 3);
         x.setRules(0, 1);
         Due.is("ways of rule 1 of an empty cloth", x.ways(0, 3), 54);
+        waysByThrees(x);
+        newCloth(x, 'l', ".0", "01");
+        x.setRules(2, 8);
+        Due.is("ways of rule 8 with one cell that breaks it", x.ways(2, 2), 0);
+        x.draw(2, 1, 1, 4);
+        Due.is("ways of rule 8 by the first cell", x.ways(2, 2), 1);
+    }
+
+    private static void waysByThrees(Beadslant x) {
+        newCloth(x, 'b', "00.1100");
+        x.setRules(1, 4);
+        for (String row : new String[] {"00.1100", ".001100", "1.11001", "0.10011", "110.011",
+            "11001.0", "11000.0", "110011.", "001100."}) {
+            drawRows(x, 1, row);
+            Due.is("ways of rule 4 of " + row, x.ways(1, 2), countWaysByThrees(row));
+        }
+    }
+
+    private static int countWaysByThrees(String row) {
+        int many = 0;
+        for (char kind : new char[] {'0', '1'}) {
+            String full = row.replace('.', kind);
+            many += full.contains("000") || full.contains("111") ? 0 : 1;
+        }
+        return many;
     }
 
     private static void fill() {

@@ -14,6 +14,7 @@ public final class PathsTest {
         mendNarrow();
         mendTwiceBeside();
         mendLacksBeads();
+        snapReachesTwo();
         crochetedSnapsByItsPath();
         widthsAndLean();
         Due.end();
@@ -105,6 +106,11 @@ public final class PathsTest {
         x.string(1);
         Due.fails(x, "work with beads on the string", UnsupportedOperationException.class, () -> x.work(0));
         x.buy(1, 1);
+        for (int bead = 0; bead < 8; bead++) {
+            x.string(0);
+        }
+        Due.fails(x, "work without beads of the first kind", UnsupportedOperationException.class, () -> x.work(0));
+        x.buy(0, 9);
         x.addCloth('b', 2, 2);
         ClothsTest.drawRows(x, 1, "00", "11");
         Due.is("work with thread just so long", x.work(0), 0);
@@ -203,6 +209,12 @@ public final class PathsTest {
         Due.is("snap(0, 3) again, the path staying", x.snap(0, 3), 2);
         Due.is("mend(0) again", x.mend(0), 2);
         Due.is("passes(0, 0, 1)", x.passes(0, 0, 1), 4);
+        Due.is("snap(0, 12), elsewhere", x.snap(0, 12), 2);
+        Due.is("mend(0) of the new gaps alone", x.mend(0), 2);
+        int[] then = {2, 4, 3, 3, 2, 3, 2, 2};
+        for (int cell = 0; cell < 8; cell++) {
+            Due.is("passes then of " + cell, x.passes(0, cell / 4, cell % 4), then[cell]);
+        }
         Due.is("isSound()", x.isSound(), true);
         Due.fails(x, "mend(1)", IndexOutOfBoundsException.class, () -> x.mend(1));
         Due.fails(x, "mend(-1)", IndexOutOfBoundsException.class, () -> x.mend(-1));
@@ -242,13 +254,18 @@ public final class PathsTest {
         for (int cell = 0; cell < 6; cell++) {
             Due.is("passes by brick of " + cell, x.passes(1, cell / 3, cell % 3), brick[cell]);
         }
-        ClothsTest.newCloth(x, 'p', "33", "33");
+        ClothsTest.newCloth(x, 'b', "33");
         x.work(2);
-        Due.is("snap(2, 2)", x.snap(2, 2), 2);
-        Due.is("mend(2)", x.mend(2), 2);
+        Due.is("snap(2, 3)", x.snap(2, 3), 1);
+        Due.is("mend(2)", x.mend(2), 1);
+        Due.is("passes of the first cell", x.passes(2, 0, 0), 3);
+        ClothsTest.newCloth(x, 'p', "33", "33");
+        x.work(3);
+        Due.is("snap(3, 2)", x.snap(3, 2), 2);
+        Due.is("mend(3)", x.mend(3), 2);
         int[] across = {2, 2, 2 + 2, 1 + 1};
         for (int cell = 0; cell < 4; cell++) {
-            Due.is("passes across of " + cell, x.passes(2, cell / 2, cell % 2), across[cell]);
+            Due.is("passes across of " + cell, x.passes(3, cell / 2, cell % 2), across[cell]);
         }
     }
 
@@ -270,6 +287,41 @@ public final class PathsTest {
         Due.is("stock(0)", x.stock(0), 0);
         Due.is("stock(1)", x.stock(1), 1);
         ClothsTest.looks(x, 0, 3, 1, "010");
+        Beadslant y = new Beadslant();
+        y.addKind(0, 8, 2, 1);
+        y.addKind(0, 8, 3, 1);
+        y.buy(0, 1);
+        y.buy(1, 2);
+        y.thread(999);
+        ClothsTest.newCloth(y, 'b', "011");
+        y.work(0);
+        y.snap(0, 0);
+        Due.fails(y, "mend of the first cell without beads", UnsupportedOperationException.class, () -> y.mend(0));
+        y.buy(0, 1);
+        Due.is("mend(0)", y.mend(0), 1);
+        Due.is("passes(0, 0, 1)", y.passes(0, 0, 1), 3);
+        y.buy(1, 2);
+        Due.is("snap(0, 4)", y.snap(0, 4), 2);
+        y.buy(1, 2);
+        Due.fails(y, "mend beside a first cell too narrow", UnsupportedOperationException.class, () -> y.mend(0));
+    }
+
+    /** The bead that comes last in the reach of a snap, and the one that comes first, at the path's ends. */
+    private static void snapReachesTwo() {
+        for (int place = 0; place < 4; place++) {
+            Beadslant x = rich();
+            ClothsTest.newCloth(x, 'p', "012");
+            x.work(0);
+            int[] want = {2, 3, 3, 2};
+            Due.is("snap(0, " + place + ")", x.snap(0, place), want[place]);
+        }
+        for (int place = 0; place < 8; place++) {
+            Beadslant x = rich();
+            ClothsTest.newCloth(x, 'b', "0123");
+            x.work(0);
+            int[] want = {1, 2, 2, 2, 2, 2, 2, 1};
+            Due.is("snap(0, " + place + "), brick", x.snap(0, place), want[place]);
+        }
     }
 
     /** By peyote a crocheted bead counts as passed twice, but the path goes through some of them once. */

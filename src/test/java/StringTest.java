@@ -203,6 +203,11 @@ public final class StringTest {
         Due.is("passes(0, 1, 1)", x.passes(0, 1, 1), 2);
         Due.is("isSound()", x.isSound(), true);
         Due.fails(x, "strung(0)", NoSuchElementException.class, () -> x.strung(0));
+        stringAll(x, "0123");
+        Due.fails(x, "crochet(0) of a worked cloth", UnsupportedOperationException.class, () -> x.crochet(0));
+        for (int bead = 0; bead < 4; bead++) {
+            x.breakBead(0);
+        }
         stringAll(x, "00100");
         ClothsTest.newCloth(x, 'l', "00", "10");
         Due.fails(x, "crochet(1) of too many", UnsupportedOperationException.class, () -> x.crochet(1));

@@ -183,6 +183,10 @@ public final class WordsTest {
         x.draw(0, 0, 7, 4);
         x.draw(0, 0, 8, 4);
         Due.is("guess(0, 0, 1, 1) by kinds of one colour", x.guess(0, 0, 1, 1), 0);
+        x.addKind(7, 8, 2, 0);
+        x.draw(0, 1, 3, 5);
+        Due.is("guess(0, 1, 7, 2) of the last colour", x.guess(0, 1, 7, 2), 7);
+        x.draw(0, 1, 3, -1);
         Due.fails(x, "guess(0, 0, 0, 12)", NoSuchElementException.class, () -> x.guess(0, 0, 0, 12));
         Due.fails(x, "guess(0, 0, 3, 7)", NoSuchElementException.class, () -> x.guess(0, 0, 3, 7));
         Due.fails(x, "guess(0, 1, 0, 1) of an empty row", NoSuchElementException.class, () -> x.guess(0, 1, 0, 1));
