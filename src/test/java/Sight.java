@@ -10,13 +10,22 @@ final class Sight {
             seen.append(' ').append(x.account(kind));
         }
         seen.append(" thread ").append(x.thread(0));
-        for (int region = 0; region < 3; region++) {
-            seen.append(' ').append(x.isClear(region));
-        }
+        addWords(x, seen);
         addCloths(x, seen);
         addShapes(x, seen);
         addString(x, seen);
         return seen.toString();
+    }
+
+    private static void addWords(Beadslant x, StringBuilder seen) {
+        for (int region = 0; region < 3; region++) {
+            seen.append(" words ").append(x.isClear(region));
+            for (int colour = 0; colour < 8; colour++) {
+                int word = x.setWord(region, colour, 0);
+                x.setWord(region, colour, word);
+                seen.append(',').append(word);
+            }
+        }
     }
 
     private static void addCloths(Beadslant x, StringBuilder seen) {
