@@ -277,7 +277,7 @@ final class BoundsOfPaths {
         });
     }
 
-    /** Snaps at each place of a new cloth; a digit of want tells how many fall, the rows which are gaps then. */
+    /** Snaps at each place of a new cloth in turn; want tells the rows behind each snap, '.' being the gaps. */
     private static void snapsAre(char stitch, int columns, int rows, String... want) {
         for (int place = 0; place < want.length; place++) {
             Beadslant x = Bench.stocked();
@@ -418,6 +418,18 @@ final class BoundsOfPaths {
                 Due.is("state(0)", x.state(0), 'g');
             }
         });
+        Due.sentence(22, "a hole of the first cell is too narrow", () -> {
+            Beadslant x = new Beadslant();
+            x.addKind(0, 8, 2, 0);
+            x.addKind(1, 8, 9, 0);
+            x.buy(0, 9);
+            x.buy(1, 9);
+            x.thread(999);
+            ClothsTest.newCloth(x, 'b', "01");
+            x.work(0);
+            Due.is("snap(0, 3)", x.snap(0, 3), 1);
+            Due.fails(x, "mend(0)", U, () -> x.mend(0));
+        });
         Due.sentence(22, "a hole is too narrow for two gaps beside, not for one", () -> {
             for (int hole = 3; hole <= 4; hole++) {
                 Beadslant x = new Beadslant();
@@ -471,6 +483,26 @@ final class BoundsOfPaths {
             Due.is("mend(0) with holes of 2", x.mend(0), 2);
             Due.is("passes(0, 0, 0)", x.passes(0, 0, 0), 2);
         });
+        Due.sentence(22, "each neighbour of a gap is passed once more for each such gap, by loom", () ->
+                neighboursArePassed('l', BoundsOfRules.ASIDE + BoundsOfRules.BELOW));
+        Due.sentence(22, "each neighbour of a gap is passed once more for each such gap, by peyote", () ->
+                neighboursArePassed('p', BoundsOfRules.ASIDE + BoundsOfRules.BELOW + BoundsOfRules.PEYOTE));
+        Due.sentence(22, "each neighbour of a gap is passed once more for each such gap, by brick", () ->
+                neighboursArePassed('b', BoundsOfRules.ASIDE + BoundsOfRules.BELOW + BoundsOfRules.BRICK));
+        Due.sentence(22, "what was mended is no gap any more", () -> {
+            Beadslant x = Bench.stocked();
+            Bench.plain(x, 'b', 6, 1, 0);
+            x.work(0);
+            Due.is("snap(0, 0)", x.snap(0, 0), 1);
+            Due.is("mend(0)", x.mend(0), 1);
+            Due.is("snap(0, 11)", x.snap(0, 11), 1);
+            Due.is("mend(0) of the other end", x.mend(0), 1);
+            Due.is("stock(0)", x.stock(0), 900 - 8);
+            String want = "232232";
+            for (int cell = 0; cell < 6; cell++) {
+                Due.is("passes of " + cell, x.passes(0, 0, cell), want.charAt(cell) - '0');
+            }
+        });
         Due.sentence(22, "the path stays as it was", () -> {
             Beadslant x = Bench.stocked();
             Bench.plain(x, 'p', 3, 3, 0);
@@ -485,6 +517,38 @@ final class BoundsOfPaths {
             Due.is("pathLength(0)", x.pathLength(0), 14);
             Due.is("snap(0, 0) again", x.snap(0, 0), 1);
         });
+    }
+
+    /** Snaps and mends at each place of a cloth of three columns and rows, whose neighbours are told. */
+    private static void neighboursArePassed(char stitch, String neighbours) {
+        int places = stitch == 'p' ? 14 : 18;
+        for (int place = 0; place < places; place++) {
+            Beadslant x = Bench.stocked();
+            Bench.plain(x, stitch, 3, 3, 0);
+            x.work(0);
+            int[] want = new int[9];
+            for (int cell = 0; cell < 9; cell++) {
+                want[cell] = x.passes(0, cell / 3, cell % 3);
+            }
+            if (x.snap(0, place) == 0) {
+                continue;
+            }
+            for (int gap = 0; gap < 9; gap++) {
+                for (int cell = 0; cell < 9 && x.kindAt(0, gap / 3, gap % 3) == -1; cell++) {
+                    String two = Math.min(gap, cell) + "" + Math.max(gap, cell) + " ";
+                    if (x.kindAt(0, cell / 3, cell % 3) == -1) {
+                        want[cell] = 2;
+                    } else if (neighbours.contains(two)) {
+                        want[cell]++;
+                    }
+                }
+            }
+            x.mend(0);
+            for (int cell = 0; cell < 9; cell++) {
+                Due.is("passes of " + cell + " of " + stitch + " snapped at " + place,
+                        x.passes(0, cell / 3, cell % 3), want[cell]);
+            }
+        }
     }
 
     private static void rowWidth() {

@@ -8,11 +8,11 @@ final class BoundsOfRules {
     private static final Class<NoSuchElementException> N = NoSuchElementException.class;
 
     // The cells of a cloth of three columns and rows are 0 to 8.
-    private static final String ASIDE = "01 12 34 45 67 78 ";
-    private static final String BELOW = "03 14 25 36 47 58 ";
-    private static final String CORNERS = "04 13 15 24 37 46 48 57 ";
-    private static final String PEYOTE = "13 15 46 48 ";
-    private static final String BRICK = "13 24 37 48 ";
+    static final String ASIDE = "01 12 34 45 67 78 ";
+    static final String BELOW = "03 14 25 36 47 58 ";
+    static final String CORNERS = "04 13 15 24 37 46 48 57 ";
+    static final String PEYOTE = "13 15 46 48 ";
+    static final String BRICK = "13 24 37 48 ";
 
     private BoundsOfRules() {
     }
@@ -345,6 +345,37 @@ final class BoundsOfRules {
             Due.is("ways(0, 4) by rule 8", x.ways(0, 4), 4);
             x.setRules(0, 15);
             Due.is("ways(0, 4) by all rules", x.ways(0, 4), 0);
+        });
+        Due.sentence(13, "a new bead is the first, the second or the third of three, or of more", () -> {
+            Beadslant x = Bench.stocked();
+            x.addCloth('l', 7, 1);
+            x.setRules(0, 4);
+            String[] rows = {".001011", "0.01011", "00.1011", "110.001", "11000.1", "1100.01", "101100.", "1.01100",
+                "00.0011", "1001.01", "10.0110"};
+            for (String row : rows) {
+                ClothsTest.drawRows(x, 0, row);
+                String zero = row.replace('.', '0');
+                String one = row.replace('.', '1');
+                int want = (zero.contains("000") || zero.contains("111") ? 0 : 1)
+                        + (one.contains("000") || one.contains("111") ? 0 : 1);
+                Due.is("ways(0, 2) of " + row, x.ways(0, 2), want);
+            }
+        });
+        Due.sentence(13, "by 8 the first cell is that of the others, of one or of many", () -> {
+            Beadslant x = Bench.stocked();
+            for (String rows : new String[] {".1", ".1/..", "../.1", ".1/11", ".11/121/111", "..1/1.1/11."}) {
+                int cloth = ClothsTest.newCloth(x, 'l', rows.split("/"));
+                x.setRules(cloth, 8);
+                int inside = rows.equals("..1/1.1/11.") ? 3 : 1;
+                Due.is("ways by rule 8 of " + rows, x.ways(cloth, 3), inside);
+            }
+        });
+        Due.sentence(13, "by 8 no first cell suits two unlike others", () -> {
+            Beadslant x = Bench.stocked();
+            ClothsTest.newCloth(x, 'l', ".1", "21");
+            x.setRules(0, 8);
+            Due.is("ways(0, 4)", x.ways(0, 4), 0);
+            Due.fails(x, "fill(0, 4)", N, () -> x.fill(0, 4));
         });
         Due.sentence(13, "what is drawn has to keep the rules too", () -> {
             Beadslant x = Bench.stocked();

@@ -441,17 +441,19 @@ final class BoundsOfSales {
             }
         });
         Due.sentence(49, "not with an empty cell in a worked cloth", () -> {
-            for (int cell = 0; cell < 3; cell++) {
-                Beadslant x = Bench.inEachState();
-                cellsOf(x, Bench.WORKED, "cellKinds")[cell] = -1;
-                // The bead is told as lost, so that the beads are as many as were bought.
-                add(x, "lost", 1);
-                Due.is("isSound()", x.isSound(), false);
+            for (int cloth = 0; cloth < 6; cloth++) {
+                for (int cell = 0; cell < 3; cell++) {
+                    Beadslant x = sixWorked();
+                    cellsOf(x, cloth, "cellKinds")[cell] = -1;
+                    // The bead is told as lost, so that the beads are as many as were bought.
+                    add(x, "lost", 1);
+                    Due.is("isSound()", x.isSound(), false);
+                }
             }
         });
         Due.sentence(49, "not with a bead passed more often than its hole tells, in each state", () -> {
             for (int cloth = Bench.WORKED; cloth <= Bench.SOLD; cloth++) {
-                for (int cell = 1; cell < 3; cell++) {
+                for (int cell = cloth == Bench.GAPPED ? 1 : 0; cell < 3; cell++) {
                     Beadslant x = Bench.inEachState();
                     cellsOf(x, cloth, "passCounts")[cell] = 9;
                     Due.is("isSound() with 9 passes", x.isSound(), true);
@@ -460,6 +462,15 @@ final class BoundsOfSales {
                 }
             }
         });
+    }
+
+    private static Beadslant sixWorked() {
+        Beadslant x = Bench.stocked();
+        for (int cloth = 0; cloth < 6; cloth++) {
+            ClothsTest.newCloth(x, 'b', "012");
+            x.work(cloth);
+        }
+        return x;
     }
 
     // No run of calls comes to what is not sound: these reach into the object.

@@ -242,6 +242,18 @@ final class BoundsOfString {
             Due.fails(x, "breakBead(0) of none", N, () -> x.breakBead(0));
             Due.is("stock(0), a broken bead being lost", x.stock(0), 0);
         });
+        Due.sentence(31, "the beads of a full string move up to its end", () -> {
+            for (int place : new int[] {1, 70, 143}) {
+                Beadslant x = Bench.stocked();
+                Bench.strings(x, 1, 142);
+                x.string(2);
+                x.string(3);
+                Due.is("breakBead(" + place + ")", x.breakBead(place), 143);
+                Due.is("strung(0)", x.strung(0), 3);
+                Due.is("strung(1)", x.strung(1), place == 1 ? 1 : 2);
+                Due.is("strung(142)", x.strung(142), 1);
+            }
+        });
         Due.sentence(31, "the first place, one between and the last", () -> {
             String[] want = {"012", "013", "023", "123"};
             for (int place = 0; place < 4; place++) {
