@@ -271,6 +271,17 @@ final class BoundsOfSales {
             Due.is("shareBits(0, 1)", x.shareBits(0, 1), Float.floatToIntBits(1f / 144f));
             Due.is("shareBits(0, 0)", x.shareBits(0, 0), Float.floatToIntBits(143f / 144f));
         });
+        Due.sentence(46, "a half, a quarter and so on, whose bits after the point are all 0", () -> {
+            for (int cells = 2; cells <= 128; cells *= 2) {
+                Beadslant x = Bench.stocked();
+                x.addCloth('l', 12, 12);
+                for (int cell = 0; cell < cells; cell++) {
+                    x.draw(0, cell / 12, cell % 12, cell == 0 ? 1 : 0);
+                }
+                Due.is("shareBits(0, 1) of " + cells, x.shareBits(0, 1), Float.floatToIntBits(1f / cells));
+                Due.is("shareBits(0, 0) of " + cells, x.shareBits(0, 0), Float.floatToIntBits(1f - 1f / cells));
+            }
+        });
         Due.sentence(45, "empty cells and gaps are not counted", () -> {
             Beadslant x = Bench.inEachState();
             Due.isNumber("share of a gap's colour", x.share(Bench.GAPPED, 0), 0f);

@@ -80,6 +80,15 @@ final class BoundsOfWords {
                 }
             }
         });
+        Due.sentence(35, "the words 8 and 9 are no colour's at first", () -> {
+            for (int colour = 0; colour < 8; colour++) {
+                Beadslant x = new Beadslant();
+                x.setWord(0, colour, 8);
+                Due.is("isClear(0) with a word 8", x.isClear(0), true);
+                x.setWord(0, 7 - colour, 9);
+                Due.is("isClear(0) with a word 9", x.isClear(0), true);
+            }
+        });
         Due.sentence(35, "all colours have one word", () -> {
             Beadslant x = new Beadslant();
             for (int colour = 0; colour < 8; colour++) {
