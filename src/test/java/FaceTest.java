@@ -117,10 +117,13 @@ public final class FaceTest {
                         isFace || !open.contains(method.getName()), true);
                 fewParameters(method);
             }
+            int fields = 0;
             for (Field field : inside.getDeclaredFields()) {
+                fields += Modifier.isStatic(field.getModifiers()) ? 0 : 1;
                 Due.is("static field " + field.getName() + " is final", !Modifier.isStatic(field.getModifiers())
                         || Modifier.isFinal(field.getModifiers()), true);
             }
+            Due.is("at most 20 fields in " + inside.getName(), fields <= 20, true);
         }
     }
 

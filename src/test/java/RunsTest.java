@@ -6,7 +6,7 @@ import java.util.TreeMap;
 
 /** Long runs of calls, the same each time, made of the program and of the model: both have to answer alike. */
 public final class RunsTest {
-    private static final int RUNS = 600;
+    private static final int RUNS = 800;
     private static final int CALLS = 500;
 
     // How often a call is made, and for each argument its least and its greatest value.
@@ -32,6 +32,18 @@ public final class RunsTest {
         "wrongAt 20 0:5", "crochet 8 0:5", "shared 6 0:5 0:5 0:5", "guess 10 0:5 0:1 0:1 1:2", "sell 1 0:5", "money 2",
         "account 6 account", "checksum 6", "meanWidth 20", "isSound 2"};
 
+    // Cloths up to the largest; two kinds at most fill them, so that the model has few ways to try.
+    private static final String[] LARGE = {
+        "addKind 1 0:2 8:30 2:9 0:99", "buy 8 0:4 1:999", "stock 1 0:5", "thread 8 0:9999",
+        "addCloth 3 stitch 2:12 1:12", "draw 40 0:5 0:11 0:11 0:4", "draw 6 0:5 0:11 0:11 -1:-1",
+        "kindAt 6 0:5 0:11 0:11", "motif 30 0:5 1:12 1:12 -12:12", "motif 12 0:5 1:2 1:2 -12:12", "setRules 6 0:5 0:15",
+        "broken 12 0:5 rule", "ways 3 0:5 1:2", "fill 3 0:5 1:2", "repeat 6 0:5", "isMirrored 6 0:5",
+        "pathLength 3 0:5", "passAt 8 0:5 0:287", "work 12 0:5", "passes 12 0:5 0:11 0:11", "snap 16 0:5 0:287",
+        "mend 12 0:5", "rowWidth 4 0:5 0:11", "lean 4 0:5", "string 4 0:4", "wrongAt 4 0:5", "runs 6 0:5 0:11",
+        "runLength 6 0:5 0:11 0:11 bool", "runColour 6 0:5 0:11 0:11 bool", "runWord 6 0:5 0:11 0:11 0:2",
+        "shared 6 0:5 0:5 0:5", "guess 10 0:5 0:11 0:11 1:12", "sell 2 0:5", "share 6 0:5 0:7", "shareBits 4 0:5 0:7",
+        "account 4 account", "checksum 6", "isSound 2"};
+
     private static long seed;
     private static final Map<String, Integer> outcomes = new TreeMap<>();
 
@@ -40,7 +52,7 @@ public final class RunsTest {
         Map<String, Method> ofModel = methodsOf(Model.class);
         for (int run = 0; run < RUNS; run++) {
             seed = run * 7919L + 17;
-            oneRun(run, run % 3 == 0 ? FEW : CALLS_TOLD, ofProgram, ofModel);
+            oneRun(run, run % 4 == 0 ? LARGE : run % 4 == 1 ? FEW : CALLS_TOLD, ofProgram, ofModel);
         }
         eachOutcomeWasSeen(ofProgram);
         Due.end();
